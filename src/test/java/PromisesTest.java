@@ -255,6 +255,12 @@ public final class PromisesTest {
         fault(0, "cells 4;;", 2, 8);
         fault(0, "cells 4;cell 4;", 2, 8);
         fault(0, "cells 4;stiffs 4;", 2, 8);
+        fault(0, "cells 4;glassz;", 2, 8);
+        fault(0, "cells 4;a;", 2, 8);
+        fault(0, "cells 4;`;", 1, 8);
+        fault(0, "cells 4;{;", 1, 8);
+        fault(0, "cells 4;glass at 0/;", 1, 18);
+        fault(0, "cells 4;glass at 0:;", 1, 18);
         fault(0, "cells 4;flaws 1 at 0;", 2, 16);
         fault(0, "cells 4;glass 1;", 2, 14);
         fault(0, "cells 4;glass at;", 2, 16);
@@ -363,9 +369,12 @@ public final class PromisesTest {
         due(7, "without flaws", x.strength(1, 0, 5), 9);
         due(7, "without flaws, cut", x.strength(1, 1, 77), 499);
         due(7, "1 at least", x.strength(1, 2, 5), 1);
+        tell(x, 0, 2, "cells 3;flaws 1;");
+        int[] little = {100, 100, 99};
+        for (int i = 0; i < 3; i++) due(7, "by flaws 1, cell " + i, x.strength(2, i, 1), little[i]);
         due(7, "cell 3", x.strength(1, 3, 5), -2);
         due(7, "cell -1", x.strength(1, -1, 5), -2);
-        due(7, "rod 2", x.strength(2, 0, 5), -2);
+        due(7, "rod 3", x.strength(3, 0, 5), -2);
     }
 
     private static void bent() {
@@ -472,6 +481,9 @@ public final class PromisesTest {
         }
         int[] run = {1, 2, 4, 0, 117, 101, 0, 6};
         for (int what = 0; what < 8; what++) due(13, "by STUFF run(" + what + ")", x.run(what), run[what]);
+        tell(x, 2, 0, "bounce 200;die 0;ring 100;echo 100;");
+        x.go(0, 0, 0);
+        due(12, "all of it", x.wave(2, 3), 202);
         tell(x, 2, 0, "bounce 100;die 10;ring 0;echo 100;");
         x.go(0, 0, 0);
         due(12, "damp ends it", x.wave(0, 5), 1);
@@ -531,13 +543,36 @@ public final class PromisesTest {
         tell(x, 0, 0, "cells 5;stiff 3 at 4;strong 70;");
         x.go(0, 1, 0);
         due(10, "by stiff: 99 times 55 by 30", x.broke(0, 3), 181);
+        tell(x, 0, 0, "cells 60;strong 99;");
+        x.go(0, 0, 0);
+        due(10, "101 times 99 by 100 isn't above 99", x.broke(0, 1), 101);
+        due(10, "102 times 99 by 100", x.broke(0, 3), 100);
+        tell(x, 0, 0, "cells 3;strong 999;strong 150 at 0;");
+        tell(x, 1, 1, "bend 1 for 200;bend 1 for 200;");
+        tell(x, 2, 0, "bounce 0;fingers 1;");
+        x.go(0, 1, 0);
+        due(10, "150 and 2", x.broke(0, 3), 152);
+        due(10, "by BEND 200", x.broke(0, 1), 199);
+        tell(x, 0, 0, "cells 3;strong 999;strong 7 at 2;stiff 1 at 2;");
+        tell(x, 2, 0, "bounce 0;fingers 100;");
+        x.go(0, 1, 0);
+        due(10, "7 and 1", x.broke(0, 3), 8);
+        due(10, "by BEND 1", x.broke(0, 1), 0);
+        // BEND by steps: 90, back to 0, and on in the third.
+        tell(x, 0, 0, "cells 3;strong 999 at 0 at 2;");
+        tell(x, 2, 0, "bounce 0;");
+        tell(x, 1, 1, "bend 9 for 10;back 60 for 2;rest for 3;bend 10 for 4;turn 1 for 3;bend 20 for 4;");
+        x.go(0, 1, 0);
+        due(10, "at the fourth of 20", x.broke(0, 1), 25);
+        due(10, "by 120", x.broke(0, 3), 120);
+        due(13, "TURN", x.run(6), 3);
     }
 
     private static void goFarthest() {
         RodInThree x = with("cells 60;glass;stiff 99;stiff 1 at 0;strong 999;strong 58 at 0;strong 100 at 59;strong 200 at 1;strong 400 at 58;",
-            times(11, "rest for 200;") + "bend 1 for 200;", "bounce 200;run 9;");
+            "rest for 199;" + times(10, "rest for 200;") + "bend 1 for 200;", "bounce 200;run 9;");
         due(9, "4000 TICKS", x.go(0, 0, 0), 4);
-        int[][] breaks = {{0, 2298, 3, 59}, {59, 2829, 1, 118}, {1, 3351, 1, 236}, {58, 3864, 1, 472}};
+        int[][] breaks = {{0, 2297, 3, 59}, {59, 2828, 1, 118}, {1, 3350, 1, 236}, {58, 3863, 1, 472}};
         for (int i = 0; i < 4; i++) {
             for (int what = 0; what < 4; what++) due(10, "far broke(" + i + ", " + what + ")", x.broke(i, what), breaks[i][what]);
         }
@@ -744,6 +779,12 @@ public final class PromisesTest {
         x = with("cells 3;strong 399;", "rest for 200;rest for 200;bend 9 for 200;", "");
         due(19, "BEND 400 at TICK 3999, no WAVE then", x.paced(0, 0, 0, 9), 2);
         due(19, "BEND 400 at TICK 3599", x.paced(0, 0, 0, 8), 3);
+        tell(x, 2, 0, "run 1;");
+        due(19, "a WAVE that would come at TICK 4000", x.paced(0, 0, 0, 9), 2);
+        tell(x, 1, 1, "bend 99 for 5;");
+        due(9, "another RUN then", x.go(0, 1, 0), 3);
+        due(12, "has its own WAVES alone", x.run(2), 6);
+        due(13, "and its own TICKS", x.run(4), 7);
         tell(x, 0, 0, "cells 3;strong 400;");
         due(19, "BEND 401 at TICK 4000", x.paced(0, 0, 0, 9), 1);
     }
@@ -777,6 +818,10 @@ public final class PromisesTest {
         tell(x, 0, 0, "cells 5;strong 400;strong 1 at 2;stiff 1;");
         tell(x, 2, 0, "bounce 50;die 0;takes 100;");
         due(21, "871 and 495 less 966", x.least(0, 1, 0), 966);
+        tell(x, 0, 0, "cells 5;strong 367;strong 1 at 2;stiff 1;");
+        due(21, "999 at most", x.least(0, 1, 0), 999);
+        tell(x, 0, 0, "cells 5;strong 366;strong 1 at 2;stiff 1;");
+        due(21, "1000 would do", x.least(0, 1, 0), NONE);
     }
 
     private static void notchedAndNotch() {
@@ -806,6 +851,22 @@ public final class PromisesTest {
         tell(x, 0, 0, "cells 5;strong 999;strong 100 at 2;strong 300 at 3;notch 50 at 3;");
         due(24, "anew, in place of its own", x.notch(0, 0, 0, 0), 0);
         due(24, "at 3", x.notch(0, 0, 0, 1), 3);
+        x = inThree();
+        tell(x, 2, 0, "bounce 50;die 0;takes 100;");
+        due(23, "no TURN at all", x.notched(0, 0, 0, 2, 0), 3);
+        x = with("cells 3;strong 999;", "bend 1 for 10;", "bounce 0;");
+        due(24, "99 at most: strong 9", x.notch(0, 0, 0, 0), 99);
+        due(24, "in the middle", x.notch(0, 0, 0, 1), 1);
+        tell(x, 1, 0, "bend 1 for 14;");
+        due(24, "at the least cell: 14 times 75 by 100", x.notch(0, 0, 0, 1), 0);
+        tell(x, 0, 0, "cells 60;strong 999;");
+        tell(x, 1, 0, "bend 1 for 9;");
+        due(24, "of 60 cells none", x.notch(0, 0, 0, 1), NONE);
+        // Notched by 0 to 51 all along, cell 0 would break first as the ROD isn't as it was then.
+        tell(x, 0, 0, "cells 3;strong 100;notch 50 at 0;");
+        tell(x, 1, 0, "bend 1 for 49;");
+        due(24, "each notch alone: 52 at 1", x.notch(0, 0, 0, 0), 52);
+        due(24, "at 1", x.notch(0, 0, 0, 1), 1);
     }
 
     private static void longer() {
@@ -870,6 +931,7 @@ public final class PromisesTest {
         RodInThree x = bySeeds();
         tell(x, 0, 2, "cells 3;");
         tell(x, 0, 3, "cells 3;strong 999;");
+        due(28, "by seed 1", x.never(0, 1), 1 + 8);
         due(28, "by seeds 1 to 3", x.never(0, 3), 1 + 8);
         due(28, "by seeds 1 to 4", x.never(0, 4), 8);
         due(28, "nothing is done", x.never(1, 100), 1 + 4 + 8);
@@ -885,6 +947,7 @@ public final class PromisesTest {
         tellRow(x, 0, 0, 2, 1);
         due(29, "2 1", x.read(0, 0, 5, 0), 3);
         due(29, "likely", x.read(0, 0, 5, 1), 0);
+        due(29, "likely by one", x.read(0, 0, 1, 1), 0);
         due(30, "at 1", x.was(0, 0, 5, 1), 3);
         due(30, "at 0", x.was(0, 0, 5, 0), 0);
         tell(x, 1, 3, "bend 1 for 200;");
@@ -969,12 +1032,20 @@ public final class PromisesTest {
         look(x, "not not not flawed or not(pieces 3 or behind 82)", 2, 1);
         look(x, times(8, "not ") + "pieces 3", 2, 4);
         due(31, "another LOOK", x.found(0, 0, 0, 5, 0), 0);
+        tell(x, 0, 1, "cells 60;");
+        x.notched(1, 0, 0, 0, 99);
+        look(x, "longest 9", 0, NONE);
+        tell(x, 3, 0, times(7, "seek if late 1;") + "seek if pieces 3;");
+        due(31, "the 8th LOOK", x.found(7, 0, 0, 5, 0), 2);
+        due(31, "the 7th LOOK", x.found(6, 0, 0, 5, 0), 0);
+        due(31, "no 9th LOOK", x.found(8, 0, 0, 5, 0), -2);
+        tell(x, 3, 0, "seek if crushed;seek if flawed;");
         due(31, "n 100", x.found(0, 0, 0, 100, 0), 0);
         due(31, "n 0", x.found(0, 0, 0, 0, 0), -3);
         due(31, "n 101", x.found(0, 0, 0, 101, 0), -3);
         due(31, "look 2", x.found(2, 0, 0, 5, 0), -2);
         due(31, "look -1", x.found(-1, 0, 0, 5, 0), -2);
-        due(31, "rod 1", x.found(0, 1, 0, 5, 0), -2);
+        due(31, "rod 2", x.found(0, 2, 0, 5, 0), -2);
         due(31, "doings 4", x.found(0, 0, 4, 5, 0), -2);
         due(31, "what 2", x.found(0, 0, 0, 5, 2), -2);
         due(31, "what -1", x.found(0, 0, 0, 5, -1), -2);
@@ -1048,6 +1119,9 @@ public final class PromisesTest {
         due(34, "doings 4", x.swapped(0, 4, 0), -2);
         x = bySeeds();
         due(34, "cell 2 has 170 less 11 by seed 4", x.swapped(0, 0, 4), 2);
+        tell(x, 1, 1, "bend 1 for 81;");
+        due(34, "cell 1 has 100 less 20 by seed 2", x.swapped(0, 1, 2), 2);
+        due(34, "cell 1 has 100 less 18 by seed 3", x.swapped(0, 1, 3), 1);
     }
 
     private static void grid() {
