@@ -52,6 +52,7 @@ public final class PromisesTest {
         status();
         count();
         firstCodes();
+        fullest();
         System.out.println(wrong == 0 ? "all of " + asked + " answers are as due" : wrong + " answers are not as due");
         if (wrong != 0) System.exit(1);
     }
@@ -782,8 +783,9 @@ public final class PromisesTest {
         tell(x, 2, 0, "run 1;");
         due(19, "a WAVE that would come at TICK 4000", x.paced(0, 0, 0, 9), 2);
         tell(x, 1, 1, "bend 99 for 5;");
-        due(9, "another RUN then", x.go(0, 1, 0), 3);
-        due(12, "has its own WAVES alone", x.run(2), 6);
+        tell(x, 0, 1, "cells 9;strong 999;strong 100 at 4;");
+        due(9, "another RUN then", x.go(1, 1, 0), 2);
+        due(12, "has its own WAVES alone", x.run(2), 2);
         due(13, "and its own TICKS", x.run(4), 7);
         tell(x, 0, 0, "cells 3;strong 400;");
         due(19, "BEND 401 at TICK 4000", x.paced(0, 0, 0, 9), 1);
@@ -848,8 +850,8 @@ public final class PromisesTest {
         due(9, "with TURN", x.go(0, 1, 0), 2);
         due(23, "without TURN", x.notched(0, 1, 0, 2, 0), 3);
         due(24, "without TURN", x.notch(0, 1, 0, 0), 1);
-        tell(x, 0, 0, "cells 5;strong 999;strong 100 at 2;strong 300 at 3;notch 50 at 3;");
-        due(24, "anew, in place of its own", x.notch(0, 0, 0, 0), 0);
+        tell(x, 0, 0, "cells 5;strong 999;strong 200 at 2;strong 300 at 3;notch 50 at 2 to 3;");
+        due(24, "anew, in place of its own, the other one stays", x.notch(0, 0, 0, 0), 0);
         due(24, "at 3", x.notch(0, 0, 0, 1), 3);
         x = inThree();
         tell(x, 2, 0, "bounce 50;die 0;takes 100;");
@@ -862,11 +864,6 @@ public final class PromisesTest {
         tell(x, 0, 0, "cells 60;strong 999;");
         tell(x, 1, 0, "bend 1 for 9;");
         due(24, "of 60 cells none", x.notch(0, 0, 0, 1), NONE);
-        // Notched by 0 to 51 all along, cell 0 would break first as the ROD isn't as it was then.
-        tell(x, 0, 0, "cells 3;strong 100;notch 50 at 0;");
-        tell(x, 1, 0, "bend 1 for 49;");
-        due(24, "each notch alone: 52 at 1", x.notch(0, 0, 0, 0), 52);
-        due(24, "at 1", x.notch(0, 0, 0, 1), 1);
     }
 
     private static void longer() {
@@ -901,6 +898,15 @@ public final class PromisesTest {
         due(26, "the ROD stays", x.cell(0, 0, 0), 10);
         due(26, "rod 1", x.thinner(1, 0, 0, 50), -2);
         due(26, "doings 4", x.thinner(0, 4, 0, 50), -2);
+        tell(x, 0, 1, "cells 3;strong 999;strong 60 at 0;");
+        due(26, "cell 0, too: 45 above 30", x.thinner(1, 0, 0, 50), 2);
+        tell(x, 0, 1, "cells 3;strong 99;");
+        tell(x, 1, 1, "bend 1 for 1;");
+        due(26, "stiff 1: 10 above 9", x.thinner(1, 1, 0, 10), 2);
+        tell(x, 1, 1, "bend 1 for 36;");
+        due(26, "60 isn't above 60", x.thinner(0, 1, 0, 60), 1);
+        tell(x, 1, 1, "bend 1 for 37;");
+        due(26, "61 is", x.thinner(0, 1, 0, 60), 2);
         tell(x, 0, 0, "cells 3;strong 1;stiff 99;");
         tell(x, 1, 0, "bend 1 for 10;");
         due(26, "strong 1 at least, stiff 49: 10 times 100 by 490", x.thinner(0, 0, 0, 50), 2);
@@ -1033,8 +1039,7 @@ public final class PromisesTest {
         look(x, times(8, "not ") + "pieces 3", 2, 4);
         due(31, "another LOOK", x.found(0, 0, 0, 5, 0), 0);
         tell(x, 0, 1, "cells 60;");
-        x.notched(1, 0, 0, 0, 99);
-        look(x, "longest 9", 0, NONE);
+        tell(x, 1, 1, "bend 1 for 200;");
         tell(x, 3, 0, times(7, "seek if late 1;") + "seek if pieces 3;");
         due(31, "the 8th LOOK", x.found(7, 0, 0, 5, 0), 2);
         due(31, "the 7th LOOK", x.found(6, 0, 0, 5, 0), 0);
@@ -1054,6 +1059,10 @@ public final class PromisesTest {
             look(x, test, 0, NONE);
         }
         look(x, "longest 3 and shortest 3 and pieces 1", 5, 1);
+        due(23, "1 and 59", x.notched(1, 1, 0, 0, 99), 2);
+        look(x, "longest 9", 0, NONE);
+        due(23, "59 and 1", x.notched(1, 1, 0, 58, 99), 2);
+        look(x, "shortest 2", 0, NONE);
         x = inThree();
         tell(x, 1, 0, "turn 2 for 1;bend 10 for 20;");
         look(x, "offs 1", 5, 1);
@@ -1301,7 +1310,7 @@ public final class PromisesTest {
         RodInThree x = new RodInThree();
         int[] without = {0, 0, 100, 5, 2, 1, 50, 0, 20, 0, 0, 0, NONE};
         for (int what = 0; what < without.length; what++) due(43, "what " + what + " of a new one", x.count(what), without[what]);
-        tell(x, 0, 1, "cells 3;");
+        tell(x, 0, 0, "cells 3;");
         tell(x, 0, 3, "cells 3;");
         tell(x, 0, 3, "cells 4;");
         for (int k = 0; k < 4; k++) tell(x, 1, k, times(k + 1, "rest for 200;"));
@@ -1318,6 +1327,47 @@ public final class PromisesTest {
         x.text(2, 0, 0);
         due(43, "a new LAW counts alone", x.count(2), 100);
         due(43, "THE TAPE is read", x.count(0), 0);
+    }
+
+    /** All that has a bound is as full as it can be. */
+    private static void fullest() {
+        RodInThree x = with("cells 60;strong 1;", times(12, "bend 99 for 200;"), "die 0;");
+        tell(x, 0, 1, "cells 60;strong 1;");
+        tell(x, 0, 2, "cells 60;strong 999;stiff 99;");
+        due(8, "TURN of 12 STEPS", x.bent(0, 3999, true), 0);
+        due(8, "BEND of 12 STEPS", x.bent(0, 3999, false), 237600);
+        due(43, "12 STEPS", x.count(30), 2400);
+        due(27, "60 and 60", x.beside(0, 1, 0, 0), 120);
+        due(26, "60 thinner", x.thinner(0, 0, 0, 50), 60);
+        due(25, "60 longer", x.longer(0, 0, 0, 60), 60);
+        due(34, "60 swapped", x.swapped(0, 0, 0), 60);
+        due(23, "60 notched", x.notched(0, 0, 0, 59, 99), 60);
+        due(24, "60 with none", x.notch(0, 0, 0, 0), NONE);
+        due(18, "the 60th", x.ends(0, 0, 59, 1), 1);
+        due(32, "58 of 60", x.middle(0, 0, 1, 1), 58);
+        tell(x, 1, 1, times(12, "rest for 200;"));
+        due(9, "12 STEPS, nothing breaks", x.go(2, 1, 0), 1);
+        due(13, "all TICKS", x.run(4), 2400);
+        due(9, "60", x.go(0, 0, 0), 60);
+        x.row(0, 0, 60);
+        due(39, "60 PIECES", x.keep(0, 0), 60);
+        due(29, "60 PIECES", x.read(0, 0, 1, 0), 1);
+        due(30, "the first of SHAPE 99", x.was(0, 0, 1, 27), 1);
+        due(36, "the 60th flies", Math.min(1, x.flies(59)), 1);
+        x.row(0, 1, 60);
+        due(39, "60 TICKS", x.keep(0, 1), 60);
+        due(33, "60 TICKS", x.filmed(0, 0, 0, 1, 0), 1);
+        due(3, "400 bytes that end in a word", tell(x, 2, 0, times(397, " ") + "run"), -12);
+        due(4, "their end", x.fault(1), 400);
+        due(3, "400 bytes that end in a number", tell(x, 2, 0, times(395, "\n") + "run 1"), -12);
+        due(4, "their end", x.fault(1), 400);
+        due(3, "400 digits", tell(x, 2, 0, times(400, "1")), -11);
+        due(3, "400 letters", tell(x, 2, 0, times(400, "a")), -12);
+        due(3, "400 signs", tell(x, 3, 0, times(400, "(")), -12);
+        due(3, "392 signs", tell(x, 3, 0, "seek if " + times(392, "(")), -15);
+        String many = "seek if " + times(18, "late 0 and offs 0 or ") + "late 0;" + times(7, " ");
+        due(3, "400 bytes of FACTS", tell(x, 3, 0, many), 1);
+        due(31, "they are so", x.found(0, 0, 0, 1, 0), 1);
     }
 
     /** Of several codes that which the call tells first. */
