@@ -1659,7 +1659,7 @@ public final class RodInThree {
         private void takeNumber() {
             number = 0;
             token = T_NUMBER;
-            while (at < length && isDigit(at)) {
+            while (at < length && tape[at] >= '0' && tape[at] <= '9') {
                 if (at - place < 3) {
                     number = number * 10 + (tape[at] - '0');
                 }

@@ -174,6 +174,8 @@ public final class EdgesTest extends Due {
         feedText(x, times(12, " ") + "run 1;ru");
         due(3, "a word at the end", x.text(2, 0, 20), -12);
         due(4, "its begin", x.fault(1), 18);
+        due(3, "400 bytes that end in a part of a word", tell(x, 2, 0, times(398, " ") + "ru"), -12);
+        due(4, "its begin", x.fault(1), 398);
         feedText(x, times(14, " ") + "run 1;");
         due(3, "a sign at the end", x.text(2, 0, 20), 1);
     }
@@ -563,6 +565,14 @@ public final class EdgesTest extends Due {
             for (int p = 1; p < 5; p++) due(17, "ROD " + k + " in " + p, x.odds(k, 0, p, 3), odds[k][p - 1]);
         }
         due(28, "two alone never", x.never(0, 2), 8);
+        // Flaws of cells 1 and 2 are 36 and 56 by seed 0: 130 is above 119; 26 and 13 by seed 1: 150 isn't above 162.
+        RodInThree y = with("cells 4;strong 999;strong 100 at 1;strong 175 at 2;flaws 99;", "bend 1 for 200;", "die 0;");
+        due(9, "three by seed 0", y.go(0, 0, 0), 3);
+        due(9, "two by seed 1", y.go(0, 0, 1), 2);
+        due(28, "seeds begin with 1", y.never(0, 1), 1);
+        due(17, "seeds begin with 1", y.odds(0, 0, 3, 1), 0);
+        due(18, "seeds begin with 1", y.ends(0, 0, 2, 1), 0);
+        due(32, "seeds begin with 1", y.middle(0, 0, 1, 0), 0);
         int[] middle = {2, 4, 1, 1};
         for (int what = 0; what < 4; what++) due(32, "of 2, 1, 1, 1, what " + what, x.middle(0, 0, 2, what), middle[what]);
         int[] none = {0, 0, NONE, NONE};

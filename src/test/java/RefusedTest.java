@@ -7,12 +7,13 @@ import java.util.Map;
 /**
  * Each call with each argument at its bounds, next to them and far beyond, in all combinations: by which
  * code it is refused (of several by that which the call tells first), that it is counted so, and that
- * nothing else is changed.
+ * nothing else is changed; nor is anything by calls that only ask.
  */
 public final class RefusedTest extends Due {
     private static final int MIN = Integer.MIN_VALUE;
     private static final int MAX = Integer.MAX_VALUE;
     private static final int[] STATUSES = {1, 2, 3, 5, 6, 7};
+    private static final List<String> CHANGING = List.of("text", "go", "row", "write", "keep", "image", "restore");
 
     private interface Call {
         long of(RodInThree x, int[] a);
@@ -310,8 +311,8 @@ public final class RefusedTest extends Due {
             Map<String, Long> refused = new LinkedHashMap<>(statuses);
             if (want != 0) refused.merge("status(" + (want < -10 ? 1 : -want) + ")", 1L, Long::sum);
             same(42, told, refused, statuses(x));
-            // All that is there is asked where one argument alone is to blame, or none is: then it can't be another's.
-            if (want != 0 && want > -10 && blamed(of, a) <= 1) {
+            // All that is there is asked where one argument alone is to blame, and where a call only asks.
+            if (want != 0 ? want > -10 && blamed(of, a) <= 1 : !CHANGING.contains(name)) {
                 Map<String, Long> due = new LinkedHashMap<>(there);
                 due.putAll(refused);
                 same(promise, told, due, whatIsThere(x));
