@@ -306,6 +306,9 @@ public final class EdgesTest extends Due {
         for (int k = 0; k < 4; k++) {
             for (int i = 0; i < 5; i++) due(7, "seed " + seeds[k] + ", cell " + i, x.strength(0, i, seeds[k]), 999 - flaws[k][i]);
         }
+        tell(x, 0, 0, "cells 60;strong 7 at 59;");
+        due(7, "cell 59 of 60", x.strength(0, 59, 0), 7);
+        due(7, "cell 60 of 60", x.strength(0, 60, 0), -2);
         int[] strong = {100, 99, 98, 1};
         int[] strength = {2, 1, 1, 1};
         for (int k = 0; k < 4; k++) {
@@ -528,6 +531,14 @@ public final class EdgesTest extends Due {
         due(19, "2 for 54 is 108", x.paced(1, 0, 0, 9), 3);
         tell(x, 0, 1, "cells 3;strong 108;");
         due(19, "108 isn't above 108", x.paced(1, 0, 0, 9), 1);
+        // BEND is 1 at TICK 3600, as 400 TICKS of rest are over nine times, and t - 3599 at TICK t.
+        tell(x, 1, 0, "rest for 200;rest for 200;bend 9 for 200;");
+        int[] pieces = {2, 2, 1, 1, 1, 1, 1};
+        for (int strong = 398; strong <= 404; strong++) {
+            tell(x, 0, 1, "cells 3;strong " + strong + ";");
+            tell(x, 2, 0, "bounce 0;");
+            due(19, "BEND " + (strong + 1) + " at TICK " + (strong + 3600), x.paced(1, 0, 0, 9), pieces[strong - 398]);
+        }
         tell(x, 1, 0, "bend 8 for 200;");
         due(19, "8 by 9 is 0", x.paced(1, 0, 0, 9), 1);
         due(22, "and no turn makes two of it", x.line(1, 0, 0, 9), NONE);

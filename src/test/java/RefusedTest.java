@@ -61,8 +61,8 @@ public final class RefusedTest extends Due {
     }
 
     private static void texts() {
-        all(3, "text", (x, a) -> x.text(a[0], a[1], a[2]), true, RefusedTest::textCode, within(0, 3, -2),
-            new Arg(new int[] {0, 1, 3, -1, 4, MIN, MAX}, new int[7]), within(0, 20, -3));
+        all(3, "text", (x, a) -> x.text(a[0], a[1], a[2]), true, RefusedTest::textCode,
+            new Arg(new int[] {0, 1, 2, 3, -1, 4, MIN, MAX}, new int[8]), new Arg(new int[] {0, 1, 3, -1, 4, MIN, MAX}, new int[7]), within(0, 20, -3));
         all(5, "rod", (x, a) -> x.rod(a[0], a[1]), true, null, ROD, within(0, 1, -2));
         all(6, "cell", (x, a) -> x.cell(a[0], a[1], a[2]), true, null, ROD, CELL, within(0, 4, -2));
         all(7, "strength", (x, a) -> x.strength(a[0], a[1], a[2]), true, null, ROD, CELL, SEED);
