@@ -1284,8 +1284,8 @@ public final class RodInThree {
             law = by;
             out.ahead = by.facts[RUN] - by.facts[TWIST];
             of.drawStrengths(seed, strength);
-            leastBend = Integer.MAX_VALUE;
-            for (int i = 0; i < of.cells; i++) {
+            leastBend = bendThatBreaks(0);
+            for (int i = 1; i < of.cells; i++) {
                 leastBend = Math.min(leastBend, bendThatBreaks(i));
             }
         }

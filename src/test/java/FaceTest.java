@@ -59,6 +59,10 @@ public final class FaceTest {
         int count(int)
         """;
 
+    /** What the class takes of rule 4's static functions. */
+    private static final Set<String> LIBRARY = Set.of("Math.abs", "Math.max", "Math.min", "Arrays.fill",
+        "System.arraycopy");
+
     private static int wrong = 0;
 
     private static void hold(boolean so, String what) {
@@ -138,6 +142,11 @@ public final class FaceTest {
         while (imports.find()) {
             hold(List.of("java.util.Arrays", "java.util.ArrayList", "java.util.List").contains(imports.group(1)),
                 "import " + imports.group(1));
+        }
+        Matcher library = Pattern.compile("\\b(Integer|Long|Math|Arrays|System|List|String)\\.(\\w+)").matcher(
+            code.replaceAll("(?m)^import .*;", ""));
+        while (library.find()) {
+            hold(LIBRARY.contains(library.group()), library.group() + " is not in the library that stands in rule 4");
         }
         int length = 0;
         for (String line : text.split("\n")) {
