@@ -1575,6 +1575,7 @@ public final class RodInThree {
         final Law law = new Law();
         final Looks looks = new Looks();
         private final byte[] tape = new byte[MAX_BYTES];
+        private final char[] letters = WORDS.toCharArray();
         private int length;
         private int at;
         private int token;
@@ -1639,8 +1640,8 @@ public final class RodInThree {
         private int wordFrom(int from, int size) {
             int word = 0;
             int like = 0;
-            for (int i = 0; i < WORDS.length(); i++) {
-                char c = WORDS.charAt(i);
+            for (int i = 0; i < letters.length; i++) {
+                char c = letters[i];
                 if (c == ' ') {
                     if (like == size) {
                         return word;
